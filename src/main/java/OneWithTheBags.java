@@ -968,11 +968,11 @@ public final class OneWithTheBags {
         }
 
         void skip() {
-            at = Math.min(at + 1, limit);
+            at += at < limit ? 1 : 0;
         }
 
         void stepBack() {
-            at = Math.max(at - 1, 0);
+            at -= at > 0 ? 1 : 0;
         }
 
         boolean take(int sign) {
@@ -984,11 +984,11 @@ public final class OneWithTheBags {
         }
 
         int digit(int least) {
-            int d = peek() - '0';
+            int d = at >= 0 && at < limit ? signs[at] - '0' : NONE;
             if (d < least || d > 9) {
                 return NONE;
             }
-            skip();
+            at++;
             return d;
         }
 
@@ -1205,15 +1205,15 @@ public final class OneWithTheBags {
         }
 
         int who(int i) {
-            return has(i) ? trips[i] & 7 : 0;
+            return i >= 0 && i < size ? trips[i] & 7 : 0;
         }
 
         int what(int i) {
-            return has(i) ? trips[i] >> 3 & 7 : 0;
+            return i >= 0 && i < size ? trips[i] >> 3 & 7 : 0;
         }
 
         int first(int i) {
-            return has(i) ? trips[i] >> 6 : 0;
+            return i >= 0 && i < size ? trips[i] >> 6 : 0;
         }
 
         void add(int p, int e, int s) {
@@ -1484,13 +1484,10 @@ public final class OneWithTheBags {
             return missing != 0;
         }
 
-        private boolean overlaps(int j, int from, int till) {
-            return plan.first(j) < till && from < back(j);
-        }
-
         private boolean isAwayByAnother(int i) {
             for (int j = 0; j < plan.size; j++) {
-                if (j != i && plan.who(j) == plan.who(i) && overlaps(j, plan.first(i), back(i))) {
+                boolean another = j != i && plan.who(j) == plan.who(i);
+                if (another && plan.first(j) < back(i) && plan.first(i) < back(j)) {
                     return true;
                 }
             }
@@ -1502,9 +1499,11 @@ public final class OneWithTheBags {
             if (hall.thing[e] == 0) {
                 return false;
             }
+            int back = s + hall.length(e);
             for (int j = 0; j < plan.size; j++) {
                 boolean sameThing = hall.thing[plan.what(j)] == hall.thing[e];
-                if (sameThing && !plan.goTogether(j, e, s) && overlaps(j, s, s + hall.length(e))) {
+                boolean overlap = plan.first(j) < back && s < back(j);
+                if (sameThing && overlap && !plan.goTogether(j, e, s)) {
                     return true;
                 }
             }
@@ -1833,24 +1832,20 @@ public final class OneWithTheBags {
                 for (int p = 0; p < hall.people; p++) {
                     for (int e = 0; e < hall.errands; e++) {
                         laws.look();
-                        tryFirst(p, e, depth);
+                        int s = soonest(p, e);
+                        if (s < 0) {
+                            continue;
+                        }
+                        int gain = put(p, e, s, 0);
+                        if (depth == 1) {
+                            take(gain, 1);
+                        } else {
+                            trySecond(gain);
+                        }
+                        plan.removeLast();
                     }
                 }
             }
-        }
-
-        private void tryFirst(int p, int e, int depth) {
-            int s = soonest(p, e);
-            if (s < 0) {
-                return;
-            }
-            int gain = put(p, e, s, 0);
-            if (depth == 1) {
-                take(gain, 1);
-            } else {
-                trySecond(gain);
-            }
-            plan.removeLast();
         }
 
         private void trySecond(int firstGain) {
