@@ -39,7 +39,12 @@ public final class ModelTest {
     private static void run(Random r, long seed, int[] good) {
         OneWithTheBags x = new OneWithTheBags();
         Model m = new Model();
-        Texts texts = new Texts(r, m);
+        boolean late = seed % 3 == 1;
+        Texts texts = new Texts(r, m, late);
+        if (late) {
+            m.train(99);
+            x.train(99);
+        }
         StringBuilder log = new StringBuilder();
         boolean wild = seed % 10 == 0;
         for (int k = 0; k < CALLS; k++) {
@@ -51,7 +56,7 @@ public final class ModelTest {
             if (reads && (k == 0 || r.nextInt(20) > 0)) {
                 putText(x, m, k == 0 ? texts.bigStation() : texts.forCall(NAMES[op]), log);
             }
-            int[] a = arguments(r, m, NAMES[op], wild && r.nextInt(3) == 0);
+            int[] a = arguments(r, m, NAMES[op], wild && r.nextInt(3) == 0, late);
             log.append(' ').append(NAMES[op]).append(Arrays.toString(a));
             Object want = answer(m, null, op, a);
             Object got = answer(null, x, op, a);
@@ -101,7 +106,7 @@ public final class ModelTest {
         return b.toString();
     }
 
-    private static int[] arguments(Random r, Model m, String name, boolean wild) {
+    private static int[] arguments(Random r, Model m, String name, boolean wild, boolean late) {
         int[] a = new int[4];
         for (int k = 0; k < 4; k++) {
             int[] odd = {Integer.MIN_VALUE, Integer.MAX_VALUE, -1, r.nextInt(), 100, 99, 0, 64, 63, 12, 13};
@@ -121,14 +126,14 @@ public final class ModelTest {
             case "errand": a[0] = near(r, m.errands.size()); a[1] = near(r, 7); break;
             case "trip": case "slack": case "strike": a[0] = near(r, m.trips.size()); a[1] = near(r, 6); break;
             case "wish": a[1] = near(r, m.errands.size()); a[2] = near(r, 10); break;
-            case "train": a[0] = r.nextInt(4) == 0 ? near(r, 101) : 40 + near(r, 60); break;
+            case "train": a[0] = late && r.nextInt(4) > 0 ? 99 : r.nextInt(4) == 0 ? near(r, 101) : 40 + near(r, 60); break;
             case "sheet": a[0] = near(r, 4); a[1] = near(r, 9); a[2] = r.nextInt(3) == 0 ? r.nextInt() : near(r, 10);
                 a[3] = r.nextInt(3) == 0 ? r.nextInt() : r.nextInt(5) - 2; break;
-            case "may": case "go": case "seen": a[1] = near(r, m.errands.size()); a[2] = time(r); break;
-            case "pair": a[2] = near(r, m.errands.size()); a[3] = time(r); break;
+            case "may": case "go": case "seen": a[1] = near(r, m.errands.size()); a[2] = time(r, late); break;
+            case "pair": a[2] = near(r, m.errands.size()); a[3] = time(r, late); break;
             case "shift": a[0] = near(r, m.trips.size()); a[1] = r.nextInt(6) == 0 ? r.nextInt(220) - 110 : r.nextInt(21) - 10; break;
             case "bench": case "stayed": a[0] = near(r, 101); break;
-            case "hands": a[0] = 1 + near(r, 2); a[1] = near(r, 60); break;
+            case "hands": a[0] = 1 + near(r, 2); a[1] = near(r, m.train); break;
             case "earliest": case "latest": case "since": a[1] = near(r, m.errands.size()); break;
             case "most": a[0] = near(r, 3); break;
             case "lockers": a[0] = 4 + near(r, 18); break;
@@ -144,8 +149,8 @@ public final class ModelTest {
         return r.nextInt(15) == 0 ? r.nextInt(n + 3) - 1 : n > 0 ? r.nextInt(n) : 0;
     }
 
-    private static int time(Random r) {
-        return r.nextInt(3) == 0 ? near(r, 100) : r.nextInt(25);
+    private static int time(Random r, boolean late) {
+        return r.nextInt(3) == 0 ? near(r, 100) : late ? 50 + r.nextInt(40) : r.nextInt(25);
     }
 
     private static Object answer(Model m, OneWithTheBags x, int op, int[] a) {
@@ -262,10 +267,12 @@ public final class ModelTest {
     private static final class Texts {
         private final Random r;
         private final Model m;
+        private final boolean late;
 
-        Texts(Random r, Model m) {
+        Texts(Random r, Model m, boolean late) {
             this.r = r;
             this.m = m;
+            this.late = late;
         }
 
         private int upTo(int n) {
@@ -282,6 +289,8 @@ public final class ModelTest {
             int till = Math.min(99, from + upTo(60));
             if (r.nextInt(30) == 0) {
                 till = upTo(99);
+            } else if (late) {
+                till = 99;
             }
             String thing = one("   +*").trim();
             return "e" + way + (1 + upTo(r.nextInt(3) > 0 ? 4 : 8)) + "@" + from + "-" + till + thing + one("  ^").trim();
@@ -322,7 +331,7 @@ public final class ModelTest {
         }
 
         private String minute() {
-            return "" + (r.nextInt(4) == 0 ? upTo(99) : upTo(30));
+            return "" + (r.nextInt(4) == 0 ? upTo(99) : late ? 45 + upTo(45) : upTo(30));
         }
 
         private String part(String kind) {

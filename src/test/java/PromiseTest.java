@@ -173,6 +173,7 @@ public final class PromiseTest {
         bags();
         late();
         seen();
+        lateMinutes();
         journeys();
         kept();
         System.out.println(wrong == 0 ? "all promises hold" : wrong + " answers are not as due");
@@ -619,6 +620,11 @@ public final class PromiseTest {
         plan("a0@0", 1);
         due("shift of an unlawful one", x.shift(0, 0), -2);
         due("shift of an unlawful one", x.shift(0, 4), 4);
+        plan("a1@99", 1);
+        due("shift", x.shift(0, -99), 0);
+        due("shift", x.shift(0, 99), -2);
+        due("shift", x.shift(0, 52), 52);
+        due("shift", x.shift(0, 1), -2);
     }
 
     private static void afternoons() {
@@ -1087,6 +1093,44 @@ public final class PromiseTest {
         due("stayed", x.stayed(-1), -1);
         due("stayed", x.stayed(100), -1);
         due("stayed", x.stayed(99), 3);
+    }
+
+    /** MINUTES above 63, and TRIPS across it. */
+    private static void lateMinutes() {
+        fresh(21, "p;p;p;e45@0-99;e03@0-99^;e01@0-99+");
+        due("train", x.train(99), 60);
+        plan("a0@57;b0@60;c0@63;a1@90;b0@85;c0@84", 6);
+        // a away 57..69, 90..92 (seeing); b away 60..72, 85..97; c away 63..75, 84..96
+        due("alone", x.alone(), 7);
+        row(63, 7, 63);
+        promise = 22;
+        int[] minutes = {56, 57, 62, 63, 64, 69, 70, 75, 76, 84, 85, 90, 92, 93, 97, 98};
+        int[] there = {7, 6, 4, 0, 0, 0, 1, 3, 7, 3, 1, 0, 0, 1, 5, 7};
+        for (int k = 0; k < minutes.length; k++) {
+            due("bench(" + minutes[k] + ")", x.bench(minutes[k]), there[k]);
+        }
+        due("bench", x.bench(91), 0);
+        row(1, 0);
+        due("bench", x.bench(99), -1);
+        promise = 14;
+        due("may", x.may(0, 2, 69), 3);
+        due("may", x.may(0, 2, 70), 6);
+        due("may", x.may(0, 2, 72), 6);
+        due("may", x.may(0, 2, 73), 0);
+        due("may", x.may(0, 1, 70), 0);
+        due("may", x.may(1, 2, 62), 3);
+        due("may", x.may(2, 2, 62), 6);
+        due("may", x.may(2, 2, 59), 0);
+        due("may", x.may(2, 1, 60), 0);
+        due("may", x.may(0, 2, 98), 0);
+        promise = 27;
+        due("earliest", x.earliest(0, 0), 0);
+        due("latest", x.latest(2, 0), 47);
+        due("latest", x.latest(0, 2), 98);
+        due("latest", x.latest(2, 2), 98);
+        promise = 32;
+        due("mend", x.mend(), 1);
+        row(0);
     }
 
     private static void journeys() {
