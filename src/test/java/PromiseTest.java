@@ -589,6 +589,12 @@ public final class PromiseTest {
         due("count(3)", x.count(3), 11);
         due("strike", x.strike(10), 10);
         due("pair", x.pair(0, 1, 1, 20), 12);
+        // where they are not watched now, nothing is lost
+        plan("a0@40;b0@40", 2);
+        due("pair", x.pair(0, 1, 0, 20), -2);
+        due("pair", x.pair(0, 1, 1, 20), 4);
+        due("may", x.may(0, 0, 30), 0);
+        due("may", x.may(0, 0, 40), 3);
     }
 
     private static void strikeShift() {
@@ -622,6 +628,8 @@ public final class PromiseTest {
         due("shift of an unlawful one", x.shift(0, 4), 4);
         plan("a1@99", 1);
         due("shift", x.shift(0, -99), 0);
+        due("shift below 0", x.shift(0, -1), -2);
+        trip(0, 2, 0);
         due("shift", x.shift(0, 99), -2);
         due("shift", x.shift(0, 52), 52);
         due("shift", x.shift(0, 1), -2);
